@@ -155,6 +155,12 @@ public final class PointPromisesTest {
 
     // Tried with all pairs of polynomials there are.
     private static void promise24EveryShareOfSmallPrimes() {
+        SharesOfSeries two = Made.modulo(2);
+        two.point(0, 1);
+        two.point(1, 0);
+        DUE.is("modulo 2", 1, two.join(1, 0));
+        Made.terms(DUE, "1 + x", two, 0, 1, 1);
+        DUE.is("modulo 2, no number above", 0, two.join(0, 1));
         int p = 3;
         for (int l = 0; l <= 2; l++) {
             int m = 2 - l;

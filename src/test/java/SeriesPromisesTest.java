@@ -214,6 +214,13 @@ public final class SeriesPromisesTest {
         x.moved(f, Made.LOW, 0);
         long a = Math.floorMod((long) Made.LOW, 30011L);
         Made.numbers(DUE, "f of LOW x", x, 7, 3, 5 * a % 30011, 7 * a * a % 30011, a * a % 30011 * a % 30011 * 9 % 30011);
+        SharesOfSeries again = new SharesOfSeries();
+        Made.series(again, 1, 1, 1);
+        Made.series(again, 8, 8, 8);
+        again.clear();
+        Made.series(again, 1, 1, 1);
+        again.moved(0, 1, 2);
+        Made.numbers(DUE, "where another series was", again, 1, 0, 0, 1);
         for (int k : NO_LENGTHS) DUE.is("k " + k, SharesOfSeries.OUTSIDE, x.moved(f, 1, k));
         for (int no : new int[] {-1, 8, Made.LOW, Made.HIGH}) {
             DUE.is("moved " + no, SharesOfSeries.UNKNOWN, x.moved(no, 1, 41));

@@ -44,9 +44,10 @@ public final class SheetPromisesTest {
         DUE.is("prime 7", 29989, x.prime(7));
         int f = Made.series(x, 8, -1, 15);
         Made.numbers(DUE, "modulo 7", x, f, 1, 6, 1);
-        x.entry(f, 0, 0);
+        x.entry(f, 0, 2);
         x.clear();
         DUE.is("result ahead", 0, x.degree(0));
+        DUE.is("result ahead", 1, x.degree(1));
         DUE.is("prime 7 again", 7, x.prime(7));
         Made.terms(DUE, "result behind", x, 0);
         Made.terms(DUE, "result behind", x, 1, 1);

@@ -20,6 +20,7 @@ public final class TablePromisesTest {
         promise20Stair();
         promise21Recur();
         promise21Result();
+        promise21EverySmallSeries();
         longest();
         DUE.end();
     }
@@ -205,6 +206,8 @@ public final class TablePromisesTest {
         // One row with 1 in front below three with 1 behind the diagonal: three changes of rows.
         DUE.is("rows change places", 30010, x.worth(h, 2, 4));
         DUE.is("1, 4", 1, x.worth(h, 1, 4));
+        DUE.is("a small one behind a great one", 0, x.worth(h, 0, 1));
+        DUE.is("a small one behind a great one", 0, x.worth(h, 2, 2) + x.worth(h, 3, 2));
     }
 
     // The entry of l, m has exactly these degrees at most, and agrees as it should, where four worths are not 0.
@@ -340,6 +343,34 @@ public final class TablePromisesTest {
         Made.terms(DUE, "0", x, 1, 1);
         DUE.is("all of it", 4, x.recur(Made.series(x, 0, 0, 0, 1)));
         Made.terms(DUE, "stays 0", x, 0);
+    }
+
+    // Tried with every q there is.
+    private static void promise21EverySmallSeries() {
+        for (int p : new int[] {2, 3}) {
+            int n = p == 2 ? 6 : 4;
+            for (int code = 0; code < power(p, n + 1); code++) {
+                int[] c = digits(code, p, n + 1);
+                SharesOfSeries x = Made.modulo(p);
+                int r = 0;
+                while (!someQ(c, p, r)) r++;
+                DUE.is("modulo " + p + " recur of " + java.util.Arrays.toString(c), r, x.recur(Made.series(x, longs(c))));
+            }
+        }
+    }
+
+    private static boolean someQ(int[] c, int p, int r) {
+        for (int code = 0; code < power(p, r); code++) {
+            int[] rest = digits(code, p, r);
+            boolean works = true;
+            for (int k = r; k < c.length && works; k++) {
+                int sum = c[k];
+                for (int j = 1; j <= r; j++) sum += rest[j - 1] * c[k - j];
+                works = sum % p == 0;
+            }
+            if (works) return true;
+        }
+        return false;
     }
 
     // The greatest length there is, against the model.
