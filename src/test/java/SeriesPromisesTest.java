@@ -1,7 +1,6 @@
 /** Promises 7 to 16: series. */
 public final class SeriesPromisesTest {
     private static final Due DUE = new Due("SeriesPromisesTest");
-    private static final int[] NO_LENGTHS = {-1, 41, Made.LOW, Made.HIGH};
     private static final int[] NO_SERIES = {-1, 2, 10, Made.LOW, Made.HIGH};
 
     public static void main(String[] args) {
@@ -45,7 +44,7 @@ public final class SeriesPromisesTest {
         for (int s : new int[] {-1, 4, Made.LOW, Made.HIGH}) {
             DUE.is("sheet " + s, SharesOfSeries.UNKNOWN, x.series(s, -1, 41));
         }
-        for (int n : NO_LENGTHS) DUE.is("length " + n, SharesOfSeries.OUTSIDE, x.series(0, -1, n));
+        for (int n : Made.NO_LENGTHS) DUE.is("length " + n, SharesOfSeries.OUTSIDE, x.series(0, -1, n));
         DUE.is("no cause", 0, x.cause());
         DUE.is("lost", Made.NULL, x.series(0, -1, 0));
         Made.sheet(x, 0, 1, 1, 2, 3);
@@ -84,7 +83,7 @@ public final class SeriesPromisesTest {
         for (int s : new int[] {-1, 4, Made.LOW, Made.HIGH}) {
             DUE.is("sheet " + s, SharesOfSeries.UNKNOWN, x.share(s, -1, 41, 41, 41));
         }
-        for (int n : NO_LENGTHS) {
+        for (int n : Made.NO_LENGTHS) {
             DUE.is("l " + n, SharesOfSeries.OUTSIDE, x.share(0, -1, n, 0, 0));
             DUE.is("m " + n, SharesOfSeries.OUTSIDE, x.share(0, -1, 0, n, 0));
             DUE.is("n " + n, SharesOfSeries.OUTSIDE, x.share(0, -1, 0, 0, n));
@@ -121,7 +120,7 @@ public final class SeriesPromisesTest {
         DUE.is("the shortest", 3, x.unfold(0));
         DUE.is("the longest", 4, x.unfold(40));
         DUE.is("its length", 40, x.length(4));
-        for (int n : NO_LENGTHS) DUE.is("length " + n, SharesOfSeries.OUTSIDE, x.unfold(n));
+        for (int n : Made.NO_LENGTHS) DUE.is("length " + n, SharesOfSeries.OUTSIDE, x.unfold(n));
         SharesOfSeries y = Made.modulo(7);
         y.point(1, 1);
         y.point(2, 4);
@@ -221,7 +220,7 @@ public final class SeriesPromisesTest {
         Made.series(again, 1, 1, 1);
         again.moved(0, 1, 2);
         Made.numbers(DUE, "where another series was", again, 1, 0, 0, 1);
-        for (int k : NO_LENGTHS) DUE.is("k " + k, SharesOfSeries.OUTSIDE, x.moved(f, 1, k));
+        for (int k : Made.NO_LENGTHS) DUE.is("k " + k, SharesOfSeries.OUTSIDE, x.moved(f, 1, k));
         for (int no : new int[] {-1, 8, Made.LOW, Made.HIGH}) {
             DUE.is("moved " + no, SharesOfSeries.UNKNOWN, x.moved(no, 1, 41));
         }

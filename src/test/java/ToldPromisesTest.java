@@ -1,7 +1,6 @@
 /** Promises 25 to 31: the result, and what is told. */
 public final class ToldPromisesTest {
     private static final Due DUE = new Due("ToldPromisesTest");
-    private static final int[] NO_SIDES = {-1, 2, Made.LOW, Made.HIGH};
 
     public static void main(String[] args) {
         promise25Degree();
@@ -29,7 +28,7 @@ public final class ToldPromisesTest {
         x = withResult();
         DUE.is("of 2 + 3 x^2", 2, x.degree(0));
         DUE.is("of 1 - x", 1, x.degree(1));
-        for (int side : NO_SIDES) DUE.is("side " + side, SharesOfSeries.OUTSIDE, x.degree(side));
+        for (int side : Made.NO_SIDES) DUE.is("side " + side, SharesOfSeries.OUTSIDE, x.degree(side));
         Made.series(x, new long[41]);
         DUE.is("no cause", 0, x.cause());
         SharesOfSeries y = new SharesOfSeries();
@@ -54,7 +53,7 @@ public final class ToldPromisesTest {
             DUE.is("no term above " + k, 0, x.term(0, k));
             DUE.is("no term below " + k, 0, x.term(1, k));
         }
-        for (int side : NO_SIDES) {
+        for (int side : Made.NO_SIDES) {
             DUE.is("side " + side, SharesOfSeries.OUTSIDE, x.term(side, 0));
             DUE.is("side " + side, SharesOfSeries.OUTSIDE, x.term(side, -1));
         }

@@ -2,6 +2,8 @@
 final class Made {
     static final int INDEX = -12, NULL = -11, SIZE = -13, CAST = -14, ZERO = -15;
     static final int LOW = Integer.MIN_VALUE, HIGH = Integer.MAX_VALUE;
+    static final int[] NO_SHEETS = {-1, 4, LOW, HIGH}, NO_LANES = {-1, 4, LOW, HIGH}, NO_LENGTHS = {-1, 41, LOW, HIGH};
+    static final int[] NO_SIDES = {-1, 2, LOW, HIGH};
 
     private Made() {
     }
@@ -33,6 +35,34 @@ final class Made {
         x.series(0, 0, 2);
         for (int k = 0; k < 9; k++) x.series(0, 3, 2);
         return x;
+    }
+
+    /** An object modulo P whose result is 1 by x, with two points. */
+    static SharesOfSeries pole(int p) {
+        SharesOfSeries x = modulo(p);
+        x.point(1, 1);
+        x.point(-1, -1);
+        x.join(0, 1);
+        return x;
+    }
+
+    /** An object with twenty points i, i * i. */
+    static SharesOfSeries twentyPoints() {
+        SharesOfSeries x = new SharesOfSeries();
+        for (int i = 0; i < 20; i++) x.point(i, i * i);
+        return x;
+    }
+
+    /** 0 n times, and these behind. */
+    static long[] behindZeros(int n, long... numbers) {
+        long[] all = new long[n + numbers.length];
+        System.arraycopy(numbers, 0, all, n, numbers.length);
+        return all;
+    }
+
+    static void zeroResult(Due due, String what, SharesOfSeries x) {
+        terms(due, what, x, 0);
+        terms(due, what, x, 1, 1);
     }
 
     static void numbers(Due due, String what, SharesOfSeries x, int f, long... want) {
