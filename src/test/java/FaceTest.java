@@ -3,23 +3,21 @@ import java.lang.reflect.Field;
 import java.lang.reflect.Method;
 import java.lang.reflect.Modifier;
 import java.util.HashSet;
+import java.util.Map;
 import java.util.Set;
+import java.util.TreeMap;
 import java.util.TreeSet;
+import java.util.regex.Matcher;
+import java.util.regex.Pattern;
 
-/** The public face is the document's, and nothing else can be seen from outside. */
+/** The public face is the document's, and nothing else can be seen from outside. Run from the project's root. */
 public final class FaceTest {
     private static final Due DUE = new Due("FaceTest");
-    private static final String[] METHODS = {
-        "int prime(int)", "int sheet(int,int,int)", "int put(int,int,int,long)", "int copy(int,int,int,int,int)",
-        "int lose(int)", "int series(int,int,int)", "int share(int,int,int,int,int)", "int unfold(int)",
-        "int plus(int,int,int)", "int times(int,int)", "int under(int)", "int moved(int,int,int)",
-        "int number(int,int)", "int length(int)", "int clear()", "int entry(int,int,int)", "int worth(int,int,int)",
-        "int block(int,int,int,int)", "int stair(int,int)", "int recur(int)", "int point(int,int)", "int wipe()",
-        "int join(int,int)", "int degree(int)", "int term(int,int)", "int value(int)", "int cause()",
-        "int causes(int)", "int count(int)", "long digest()"};
-    private static final Set<String> CONSTANTS = Set.of("NONE", "UNKNOWN", "OUTSIDE", "STATE", "FULL");
+    private static final Pattern METHOD = Pattern.compile("public (int|long) (\\w+)\\(([^)]*)\\);");
+    private static final Pattern CONSTANT = Pattern.compile("([A-Z]+) = (-\\d+)[,;]");
+    private static final Map<String, Integer> CONSTANTS = new TreeMap<>();
 
-    public static void main(String[] args) {
+    public static void main(String[] args) throws ReflectiveOperationException {
         constants();
         methods();
         constructor();
@@ -28,18 +26,23 @@ public final class FaceTest {
         DUE.end();
     }
 
-    private static void constants() {
-        DUE.is("NONE", -1, SharesOfSeries.NONE);
-        DUE.is("UNKNOWN", -101, SharesOfSeries.UNKNOWN);
-        DUE.is("OUTSIDE", -102, SharesOfSeries.OUTSIDE);
-        DUE.is("STATE", -103, SharesOfSeries.STATE);
-        DUE.is("FULL", -104, SharesOfSeries.FULL);
+    private static void constants() throws ReflectiveOperationException {
+        Matcher found = CONSTANT.matcher(Document.section(0));
+        while (found.find()) CONSTANTS.put(found.group(1), Integer.parseInt(found.group(2)));
+        DUE.is("constants of the document", 5, CONSTANTS.size());
+        for (String name : CONSTANTS.keySet()) {
+            Field field = SharesOfSeries.class.getDeclaredField(name);
+            DUE.holds(name + " is a constant int", field.getModifiers() == (Modifier.PUBLIC | Modifier.STATIC | Modifier.FINAL)
+                && field.getType() == int.class);
+            DUE.is(name, CONSTANTS.get(name), field.getInt(null));
+        }
         DUE.holds("the class is final", Modifier.isFinal(SharesOfSeries.class.getModifiers()));
         DUE.holds("the class is public", Modifier.isPublic(SharesOfSeries.class.getModifiers()));
     }
 
     private static void methods() {
-        Set<String> due = new TreeSet<>(Set.of(METHODS));
+        Set<String> due = documents();
+        DUE.is("methods of the document", 30, due.size());
         Set<String> found = new TreeSet<>();
         Set<String> names = new HashSet<>();
         for (Method each : SharesOfSeries.class.getDeclaredMethods()) {
@@ -54,6 +57,16 @@ public final class FaceTest {
                 DUE.holds(each + " has a name of its own", !names.contains(each.getName()));
             }
         }
+    }
+
+    private static Set<String> documents() {
+        Set<String> due = new TreeSet<>();
+        Matcher found = METHOD.matcher(Document.section(0));
+        while (found.find()) {
+            String types = found.group(3).replaceAll("(\\w+) \\w+", "$1").replace(", ", ",");
+            due.add(found.group(1) + " " + found.group(2) + "(" + types + ")");
+        }
+        return due;
     }
 
     private static String told(Method method) {
@@ -77,7 +90,7 @@ public final class FaceTest {
         for (Field each : SharesOfSeries.class.getDeclaredFields()) {
             int modifiers = each.getModifiers();
             DUE.holds(each + " is seen just if it is of the document",
-                CONSTANTS.contains(each.getName()) == !Modifier.isPrivate(modifiers));
+                CONSTANTS.containsKey(each.getName()) == !Modifier.isPrivate(modifiers));
             if (Modifier.isStatic(modifiers)) DUE.holds(each + " is final", Modifier.isFinal(modifiers));
         }
     }

@@ -116,7 +116,7 @@ public final class ModelTest {
             case 24: point(small(25), random.nextInt(2) == 0 ? 0 : model.value(random.nextInt(40))); break;
             case 25: joinRight(); break;
             case 26: if (random.nextInt(5) == 0) wipe(); else join(small(10), small(10)); break;
-            case 27: degree(small(2)); term(small(2), small(21)); break;
+            case 27: if (random.nextBoolean()) degree(small(2)); else term(small(2), small(21)); break;
             case 28: value(random.nextInt()); break;
             default: told(); break;
         }

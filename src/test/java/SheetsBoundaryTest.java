@@ -222,8 +222,10 @@ public final class SheetsBoundaryTest {
         for (int i = 0; i < 60; i++) DUE.is(what + ", number " + i, want[i], x.number(i / 30, i % 30));
     }
 
-    // A place just behind the last number is where 0 numbers can begin; there is no such place further on.
+    // Like any n numbers, 0 of them have to lie in the row from the place that is told on: the last such place is the one
+    // just behind the last number, and further on there is no such place.
     private static void copyOfNone() {
+        DUE.about(5, "n numbers of a SHEET from i on come to another one (or the same) from j on");
         SharesOfSeries x = new SharesOfSeries();
         Made.sheet(x, 0, 2, 1, 2, 3);
         x.sheet(1, 2, 0);
@@ -232,9 +234,28 @@ public final class SheetsBoundaryTest {
         for (int[] w : fine) DUE.is("none from " + w[1] + " to " + w[3], 1, x.copy(w[0], w[1], w[2], w[3], 0));
         DUE.is("nothing came", before, x.digest());
         DUE.is("no CAUSE", 0, x.cause());
+        DUE.about(5, "INDEX");
         int[][] wrong = {{0, 4, 0, 0}, {0, 0, 0, 4}, {0, -1, 0, 0}, {0, 0, 0, -1}, {1, 1, 0, 0}, {0, 0, 1, 1}, {1, -1, 1, 0},
             {0, Made.HIGH, 0, 0}, {0, 0, 0, Made.LOW}};
         for (int[] w : wrong) DUE.is("none from " + w[1] + " to " + w[3], Made.INDEX, x.copy(w[0], w[1], w[2], w[3], 0));
+        DUE.is("nothing came", before, x.digest());
+        everyRunInTheRow();
+    }
+
+    // One rule for all n, 0 among them: the run of places is in the row, or it is not.
+    private static void everyRunInTheRow() {
+        for (int size = 0; size <= 3; size++) {
+            SharesOfSeries x = new SharesOfSeries();
+            x.sheet(0, 0, size);
+            x.sheet(1, 0, 60);
+            for (int i = -2; i <= 5; i++) {
+                for (int n = -1; n <= 4; n++) {
+                    int due = n >= 0 && i >= 0 && i + n <= size ? 1 : Made.INDEX;
+                    DUE.is(n + " of " + size + " from " + i, due, x.copy(0, i, 1, 0, n));
+                    DUE.is(n + " to " + size + " at " + i, due, x.copy(1, 0, 0, i, n));
+                }
+            }
+        }
     }
 
     private static void copyRefused() {
